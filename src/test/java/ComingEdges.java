@@ -10,41 +10,11 @@ public final class ComingEdges extends Edges {
         run(ComingEdges.class, 11, 15);
     }
 
-    /** Refused for each goer and each field that is not there, whatever the numbers behind them. */
-    private static void unknownGoerOrField(String name, int... behind) {
-        for (int goers = 1; goers <= 5; goers++) {
-            for (int k : beyond(0, goers - 1)) {
-                of("h25" + ";g30".repeat(goers)).refused(UNKNOWN, name, with(k, 0, behind));
-            }
-        }
-        for (int fields = 2; fields <= 5; fields++) {
-            for (int field : beyond(0, fields - 1)) {
-                of(open(fields, 5, ";g30")).refused(UNKNOWN, name, with(0, field, behind));
-            }
-        }
-        busy().refused(UNKNOWN, name, with(4, 4, behind)).refused(UNKNOWN, name, with(-1, -1, behind));
-    }
-
-    private static int[] with(int k, int field, int[] behind) {
-        int[] all = new int[2 + behind.length];
-        all[0] = k;
-        all[1] = field;
-        System.arraycopy(behind, 0, all, 2, behind.length);
-        return all;
-    }
-
     // ---- promise 11: widest
 
     @Says("UNKNOWN: either, both the same")
     static void promise11_unknownEitherOrTheSame() {
-        for (int fields = 2; fields <= 5; fields++) {
-            Run run = of(open(fields, 6, ";g10")).asked(6, "widest", 0, fields - 1).asked(6, "widest", fields - 1, 0);
-            for (int field : beyond(0, fields - 1)) {
-                run.refused(UNKNOWN, "widest", field, 0).refused(UNKNOWN, "widest", 0, field)
-                    .refused(UNKNOWN, "widest", field, field);
-            }
-            run.refused(UNKNOWN, "widest", 0, 0).refused(UNKNOWN, "widest", fields - 1, fields - 1);
-        }
+        unknownEither(0, "widest", 0, 0);
     }
 
     @Says("the greatest v (1 .. 9) so that one comes from the one to the other by HOLES of v or more alone")
@@ -153,10 +123,10 @@ public final class ComingEdges extends Edges {
 
     @Says("UNKNOWN: GOER, FIELD; OUTSIDE")
     static void promise12_unknownAheadOfOutside() {
-        unknownGoerOrField("way", -1);
-        unknownGoerOrField("way", 0);
-        unknownGoerOrField("way", -2);
-        unknownGoerOrField("way", 5);
+        for (int x : new int[] {-2, -1, 0, 4, 5}) {
+            unknownGoer("way", 0, 0, x);
+            unknownField(1, "way", 0, 0, x);
+        }
     }
 
     @Says("(As all is now.)")
@@ -225,7 +195,8 @@ public final class ComingEdges extends Edges {
 
     @Says("UNKNOWN: GOER, FIELD")
     static void promise14_unknownGoerOrField() {
-        unknownGoerOrField("widen");
+        unknownGoer("widen", 0, 0);
+        unknownField(1, "widen", 0, 0);
     }
 
     @Says("the fewest HOLES (there are such) to be made as great as he wants so that he comes there")
@@ -273,7 +244,8 @@ public final class ComingEdges extends Edges {
 
     @Says("UNKNOWN: GOER, FIELD")
     static void promise15_unknownGoerOrField() {
-        unknownGoerOrField("keep");
+        unknownGoer("keep", 0, 0);
+        unknownField(1, "keep", 0, 0);
     }
 
     @Says("NONE: he is there")

@@ -223,6 +223,20 @@ public final class CountyEdges extends Edges {
         run.due(3, "years", 1).widths(8, 4, 4);
     }
 
+    @Says("A TEXT that is taken makes all anew: no HOLE is WORN")
+    static void promise2_norByASeasonThatWasToldAhead() {
+        of(open(3, 9, ";g10")).row(1, 0, 0, 1, 0, 2, 0, 0).due(7, "season", 1, 0, 0, 3, 2).told(1, "h3955;g10")
+            .asked(0, "hole", 0, 1, 1).asked(0, "hole", 0, 2, 1).asked(0, "hole", 1, 2, 1).season(0, 2);
+    }
+
+    @Says("A TEXT that is taken makes all anew")
+    static void promise2_nothingIsLeftOfAGreaterCounty() {
+        Run run = of(open(5, 9, ";g94;g94;g94;g94;g94")).due(10, "years", 1).told(1, "h29;g10");
+        run.season(0, 1, 1, 20).season(0, 1, 9, 20).season(0, 1, 0, 2).season(UNKNOWN, 1, 1, 1).season(NONE, 11)
+            .season(1, 0).season(1, 4);
+        run.asked(0, "market", 0).asked(1, "market", 1).asked(1, "keep", 0, 1).due(1, "years", 1);
+    }
+
     @Says("it is YEAR 0")
     static void promise2_itIsYear0() {
         of(FOUR).due(0, "years", 60).asked(60, "many", 2).told(4, FOUR).asked(0, "many", 2)
@@ -241,8 +255,9 @@ public final class CountyEdges extends Edges {
         for (int number = 0; number < 8; number++) {
             run.due(number, "reading", 0, 0, 1, 0);
         }
-        run.asked(0b11_1110_0000, "girths", 0).told(4, FOUR).asked(0, "many", 4).asked(1022, "girths", 0).asked(7, "kinds", 0)
-            .asked(1023, "holes", 0, 1).refused(OUTSIDE, "back", 1).due(0, "reading", 0, 0, 1, 1);
+        run.asked(0b11_1110_0000, "girths", 0).told(4, FOUR);
+        run.asked(0, "many", 4).asked(1022, "girths", 0).asked(7, "kinds", 0).asked(1023, "holes", 0, 1)
+            .refused(OUTSIDE, "back", 1).due(0, "reading", 0, 0, 1, 1);
     }
 
     @Says("UNKNOWN; OUTSIDE: lane; FAULTS CAST (nothing is no CAST), NULL, SIZE")
@@ -316,17 +331,14 @@ public final class CountyEdges extends Edges {
 
     @Says("UNKNOWN")
     static void promise3_unknownFromTheFirstThatIsNotThere() {
-        for (int goers = 1; goers <= 5; goers++) {
-            Run run = of("h25" + ";g31".repeat(goers)).asked(3, "ofGoer", 0, 1).asked(3, "ofGoer", goers - 1, 1);
-            for (int k : beyond(0, goers - 1)) {
-                run.refused(UNKNOWN, "ofGoer", k, 0);
-            }
-        }
+        unknownGoer("ofGoer", 0, 0);
+        of("h25;g31;g41;g51;g61;g71").asked(3, "ofGoer", 0, 1).asked(7, "ofGoer", 4, 1);
     }
 
     @Says("UNKNOWN; OUTSIDE")
     static void promise3_unknownAheadOfOutside() {
-        busy().refused(UNKNOWN, "ofGoer", 4, 4).refused(UNKNOWN, "ofGoer", -1, -1);
+        unknownGoer("ofGoer", 0, 4);
+        unknownGoer("ofGoer", 0, -1);
     }
 
     @Says("0 kind, 1 GIRTH, 2 how THICK he is, 3 the FIELD in which he is")
@@ -359,26 +371,14 @@ public final class CountyEdges extends Edges {
     // ---- promise 4: hole
 
     @Says("UNKNOWN: either, both the same")
-    static void promise4_unknownEither() {
-        for (int fields = 2; fields <= 5; fields++) {
-            Run run = of(open(fields, 6, ";g10")).asked(6, "hole", 0, fields - 1, 0).asked(6, "hole", fields - 1, 0, 0);
-            for (int field : beyond(0, fields - 1)) {
-                run.refused(UNKNOWN, "hole", field, 0, 0).refused(UNKNOWN, "hole", 0, field, 0)
-                    .refused(UNKNOWN, "hole", field, field, 0);
-            }
-        }
-    }
-
-    @Says("UNKNOWN: either, both the same")
-    static void promise4_unknownBothTheSame() {
-        for (int field = 0; field < 5; field++) {
-            of(open(5, 6, ";g10")).refused(UNKNOWN, "hole", field, field, 0);
-        }
+    static void promise4_unknownEitherOrTheSame() {
+        unknownEither(0, "hole", 0, 0, 0);
     }
 
     @Says("UNKNOWN: either, both the same; OUTSIDE")
     static void promise4_unknownAheadOfOutside() {
-        busy().refused(UNKNOWN, "hole", 0, 4, 3).refused(UNKNOWN, "hole", -1, 0, -1).refused(UNKNOWN, "hole", 2, 2, 3);
+        unknownEither(0, "hole", 0, 0, 3);
+        unknownEither(0, "hole", 0, 0, -1);
     }
 
     @Says("OUTSIDE")
@@ -443,20 +443,13 @@ public final class CountyEdges extends Edges {
 
     @Says("UNKNOWN: either, both the same")
     static void promise5_unknownEitherOrTheSame() {
-        for (int fields = 2; fields <= 5; fields++) {
-            Run run = of(open(fields, 6, ";g10"));
-            for (int field : beyond(0, fields - 1)) {
-                run.refused(UNKNOWN, "hoop", field, 0, 1).refused(UNKNOWN, "hoop", 0, field, 1)
-                    .refused(UNKNOWN, "hoop", field, field, 1);
-            }
-            run.refused(UNKNOWN, "hoop", 0, 0, 1).refused(UNKNOWN, "hoop", fields - 1, fields - 1, 1)
-                .due(6, "hoop", fields - 1, 0, 1);
-        }
+        unknownEither(0, "hoop", 0, 0, 1);
     }
 
     @Says("UNKNOWN: either, both the same; OUTSIDE")
     static void promise5_unknownAheadOfOutside() {
-        busy().refused(UNKNOWN, "hoop", 4, 0, 10).refused(UNKNOWN, "hoop", 0, -1, -1).refused(UNKNOWN, "hoop", 1, 1, 10);
+        unknownEither(0, "hoop", 0, 0, -1);
+        unknownEither(0, "hoop", 0, 0, 10);
     }
 
     // ---- promise 6: fatten
@@ -473,12 +466,8 @@ public final class CountyEdges extends Edges {
 
     @Says("UNKNOWN; OUTSIDE")
     static void promise6_unknownAheadOfOutside() {
-        for (int goers = 1; goers <= 5; goers++) {
-            Run run = of("h25" + ";g31".repeat(goers));
-            for (int k : beyond(0, goers - 1)) {
-                run.refused(UNKNOWN, "fatten", k, 5).refused(UNKNOWN, "fatten", k, 0).refused(UNKNOWN, "fatten", k, 10);
-            }
-            run.due(3, "fatten", goers - 1, 5).asked(5, "ofGoer", goers - 1, 1);
-        }
+        unknownGoer("fatten", 0, 5);
+        unknownGoer("fatten", 0, 0);
+        unknownGoer("fatten", 0, 10);
     }
 }

@@ -43,27 +43,15 @@ public final class FittedEdges extends Edges {
 
     @Says("UNKNOWN: GOER, either FIELD, both the same; OUTSIDE")
     static void promise16_unknownGoer() {
-        for (int goers = 1; goers <= 5; goers++) {
-            Run run = of("h25" + ";g30".repeat(goers));
-            for (int k : beyond(0, goers - 1)) {
-                run.refused(UNKNOWN, "reading", k, 0, 1, 0).refused(UNKNOWN, "reading", k, 0, 1, 2);
-            }
-            run.due(0, "reading", goers - 1, 0, 1, 0);
-        }
+        unknownGoer("reading", 0, 0, 1, 0);
+        unknownGoer("reading", 0, 0, 1, 2);
         full().refused(UNKNOWN, "reading", 4, 0, 1, 0).refused(UNKNOWN, "reading", -1, 0, 1, 2);
     }
 
     @Says("UNKNOWN: GOER, either FIELD, both the same; OUTSIDE")
     static void promise16_unknownEitherFieldOrTheSame() {
-        for (int fields = 2; fields <= 5; fields++) {
-            Run run = of(open(fields, 5, ";g30"));
-            for (int field : beyond(0, fields - 1)) {
-                run.refused(UNKNOWN, "reading", 0, field, 0, 0).refused(UNKNOWN, "reading", 0, 0, field, 2)
-                    .refused(UNKNOWN, "reading", 0, field, field, 1);
-            }
-            run.refused(UNKNOWN, "reading", 0, 0, 0, 2).refused(UNKNOWN, "reading", 0, fields - 1, fields - 1, 0)
-                .due(0, "reading", 0, fields - 1, 0, 0).due(1, "reading", 0, 0, fields - 1, 1);
-        }
+        unknownEither(1, "reading", 0, 0, 0, 1);
+        unknownEither(1, "reading", 0, 0, 0, 2);
         full().refused(UNKNOWN, "reading", 0, 0, 4, 0).refused(UNKNOWN, "reading", 0, 2, 2, 0);
     }
 
@@ -80,7 +68,8 @@ public final class FittedEdges extends Edges {
     @Says("The last n READINGS (0 .. as many as there are) are taken back: how many are left")
     static void promise17_nFrom0ToAsManyAsThereAre() {
         for (int n = 0; n <= 8; n++) {
-            full().due(8 - n, "back", n).asked(8 - n, "many", 4).refused(OUTSIDE, "back", 9 - n).refused(OUTSIDE, "back", -1);
+            full().due(8 - n, "back", n).asked(8 - n, "many", 4).refused(OUTSIDE, "back", 9 - n)
+                .refused(OUTSIDE, "back", -1);
         }
         for (int n : beyond(0, 8)) {
             full().refused(OUTSIDE, "back", n);
@@ -105,16 +94,7 @@ public final class FittedEdges extends Edges {
 
     @Says("UNKNOWN")
     static void promise18_unknown() {
-        unknownGoer("girths");
-    }
-
-    private static void unknownGoer(String name) {
-        for (int goers = 1; goers <= 5; goers++) {
-            Run run = of("h25" + ";g30".repeat(goers)).asked(name.equals("girths") ? 1022 : 7, name, goers - 1);
-            for (int k : beyond(0, goers - 1)) {
-                run.refused(UNKNOWN, name, k);
-            }
-        }
+        unknownGoer("girths", 0);
     }
 
     @Says("GIRTHS of a GOER: 1 .. 9")
@@ -163,7 +143,7 @@ public final class FittedEdges extends Edges {
 
     @Says("UNKNOWN")
     static void promise19_unknown() {
-        unknownGoer("kinds");
+        unknownGoer("kinds", 0);
     }
 
     @Says("KINDS of a GOER: 0 .. 2")
@@ -199,14 +179,7 @@ public final class FittedEdges extends Edges {
 
     @Says("UNKNOWN: either, both the same")
     static void promise20_unknownEitherOrTheSame() {
-        for (int fields = 2; fields <= 5; fields++) {
-            Run run = of(open(fields, 6, ";g10")).asked(1023, "holes", 0, fields - 1).asked(1023, "holes", fields - 1, 0);
-            for (int field : beyond(0, fields - 1)) {
-                run.refused(UNKNOWN, "holes", field, 0).refused(UNKNOWN, "holes", 0, field)
-                    .refused(UNKNOWN, "holes", field, field);
-            }
-            run.refused(UNKNOWN, "holes", 0, 0).refused(UNKNOWN, "holes", fields - 1, fields - 1);
-        }
+        unknownEither(0, "holes", 0, 0);
     }
 
     @Says("HOLES between two FIELDS: 0 .. 9")
@@ -284,17 +257,10 @@ public final class FittedEdges extends Edges {
 
     @Says("LOST: UNKNOWN: GOER, FIELD; OUTSIDE")
     static void promise21_lostIfUnknown() {
-        for (int goers = 1; goers <= 5; goers++) {
-            Run run = of("h25" + ";g30".repeat(goers)).asked(5, "odds", goers - 1, 1, 0);
-            for (int k : beyond(0, goers - 1)) {
-                run.refused(LOST, "odds", k, 1, 0);
-            }
+        for (int which = 0; which <= 1; which++) {
+            unknownGoer("odds", 0, 1, which);
+            unknownField(1, "odds", 0, 0, which);
         }
-        for (int fields = 2; fields <= 5; fields++) {
-            Run run = of(open(fields, 5, ";g30")).asked(5, "odds", 0, fields - 1, 0);
-            for (int field : beyond(0, fields - 1)) {
-                run.refused(LOST, "odds", 0, field, 0).refused(LOST, "odds", 0, field, 2);
-            }
-        }
+        busy().refused(LOST, "odds", 4, 0, 2).refused(LOST, "odds", 0, 4, -1);
     }
 }

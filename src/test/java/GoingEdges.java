@@ -55,24 +55,13 @@ public final class GoingEdges extends Edges {
 
     @Says("UNKNOWN: GOER, FIELD")
     static void promise7_unknownGoer() {
-        for (int goers = 1; goers <= 5; goers++) {
-            Run run = of("h25" + ";g30".repeat(goers));
-            for (int k : beyond(0, goers - 1)) {
-                run.refused(UNKNOWN, "go", k, 1);
-            }
-            run.due(2, "go", goers - 1, 1);
-        }
+        unknownGoer("go", 0, 1);
+        unknownGoer("go", 0, 0);
     }
 
     @Says("UNKNOWN: GOER, FIELD")
     static void promise7_unknownField() {
-        for (int fields = 2; fields <= 5; fields++) {
-            Run run = of(open(fields, 5, ";g30"));
-            for (int field : beyond(0, fields - 1)) {
-                run.refused(UNKNOWN, "go", 0, field);
-            }
-            run.due(2, "go", 0, fields - 1);
-        }
+        unknownField(1, "go", 0, 0);
     }
 
     @Says("STATE: he is there, there is no HOLE, he does not FIT")
@@ -166,15 +155,7 @@ public final class GoingEdges extends Edges {
 
     @Says("UNKNOWN: either, both the same")
     static void promise9_unknownEitherOrTheSame() {
-        for (int fields = 2; fields <= 5; fields++) {
-            Run run = of(open(fields, 6, ";g10"));
-            for (int field : beyond(0, fields - 1)) {
-                run.refused(UNKNOWN, "stop", field, 0).refused(UNKNOWN, "stop", 0, field)
-                    .refused(UNKNOWN, "stop", field, field);
-            }
-            run.refused(UNKNOWN, "stop", 0, 0).refused(UNKNOWN, "stop", fields - 1, fields - 1)
-                .due(6, "stop", fields - 1, 0);
-        }
+        unknownEither(0, "stop", 0, 0);
     }
 
     @Says("A HOLE is STOPPED up: what it was")
@@ -199,7 +180,8 @@ public final class GoingEdges extends Edges {
         for (int n : beyond(0, 20)) {
             run.refused(OUTSIDE, "season", 1, 2, 0, n, 3);
         }
-        busy().due(1, "sheet", 1, 2, 60).refused(OUTSIDE, "season", 1, 2, 0, 21, 1).refused(OUTSIDE, "season", 1, 2, 0, 30, 1);
+        busy().due(1, "sheet", 1, 2, 60).refused(OUTSIDE, "season", 1, 2, 0, 21, 1)
+            .refused(OUTSIDE, "season", 1, 2, 0, 30, 1);
     }
 
     @Says("OUTSIDE: lane, n (0 .. 20), what (0 .. 4, 10 .. 14)")
@@ -464,7 +446,8 @@ public final class GoingEdges extends Edges {
         for (int k = 0; k < 5; k++) {
             for (int to = 0; to < 5; to++) {
                 Run run = of(open(5, 9, ";g10;g11;g12;g13;g14")).row(1, 0, k, to);
-                run.asked(k == to ? 0 : NONE, "season", 1, 0, 0, 1, 1).asked(k == to ? -100 : to, "season", 1, 0, 0, 1, 10 + k);
+                run.asked(k == to ? 0 : NONE, "season", 1, 0, 0, 1, 1);
+                run.asked(k == to ? -100 : to, "season", 1, 0, 0, 1, 10 + k);
             }
         }
     }

@@ -113,24 +113,24 @@ public final class PromiseTest {
         due(x.sheet(0, 0, 0), 1);
         due(x.county(0, 0, 0, 0), -100);
         String whole = "h50123456789;g10;t24;c93;g50;t01";
-        due(told(x, whole), -100 - 30);
+        due(told(new HedgeHoles(), whole), -100 - 30);
         whole = "h50123456789;g10;t24;c93;g50;t11";
-        due(told(x, whole), 5);
+        due(told(new HedgeHoles(), whole), 5);
         for (int n = 0; n < whole.length(); n++) {
             boolean ends = n >= 16 && n % 4 == 0;
-            due(told(x, whole.substring(0, n)), ends ? (n - 12) / 4 : -100 - n);
+            due(told(new HedgeHoles(), whole.substring(0, n)), ends ? (n - 12) / 4 : -100 - n);
         }
         String[] wrongs = {"H", "x", "h1", "h6", "h2:", "h2x", "h25g", "h25;x", "h25;h", "h25;g0", "h25;g:", "h25;g32",
             "h25;g3/", "h25;g31g", "h25;g310", "h3123;g13", "h4123456;c14", whole + ";", whole + "x"};
         for (String w : wrongs) {
-            due(told(x, w), -100 - (w.length() - 1));
-            due(told(x, w + ";g10"), -100 - (w.length() - 1));
+            due(told(new HedgeHoles(), w), -100 - (w.length() - 1));
+            due(told(new HedgeHoles(), w + ";g10"), -100 - (w.length() - 1));
         }
-        due(told(x, "h20;g11"), 1);
-        due(told(x, "h29;c90;t10"), 2);
-        due(told(x, "h3000;g12"), 1);
-        due(told(x, "h4000000;g13"), 1);
-        due(told(x, "h50000000000;g14"), 1);
+        due(told(new HedgeHoles(), "h20;g11"), 1);
+        due(told(new HedgeHoles(), "h29;c90;t10"), 2);
+        due(told(new HedgeHoles(), "h3000;g12"), 1);
+        due(told(new HedgeHoles(), "h4000000;g13"), 1);
+        due(told(new HedgeHoles(), "h50000000000;g14"), 1);
     }
 
     private static void countyFaults() {

@@ -302,19 +302,7 @@ public final class SheetEdges extends Edges {
 
     @Says("UNKNOWN")
     static void promise27_unknown() {
-        unknownGoer("tell", 3);
-    }
-
-    /** Refused for each goer that is not there, and no body has begun. */
-    private static void unknownGoer(String name, long ofLast, int... behind) {
-        for (int goers = 1; goers <= 5; goers++) {
-            Run run = of("h25" + ";g30".repeat(goers));
-            for (int k : beyond(0, goers - 1)) {
-                int[] with = behind.length == 0 ? new int[] {k} : new int[] {k, behind[0]};
-                run.refused(UNKNOWN, name, with);
-            }
-            run.due(ofLast, name, behind.length == 0 ? new int[] {goers - 1} : new int[] {goers - 1, behind[0]});
-        }
+        unknownGoer("tell", 0);
     }
 
     // ---- promise 28: hail
@@ -348,8 +336,9 @@ public final class SheetEdges extends Edges {
 
     @Says("UNKNOWN; OUTSIDE; CAST")
     static void promise29_unknownAheadOfOutsideAndCast() {
-        unknownGoer("as", 1, 0);
-        busy().refused(UNKNOWN, "as", 4, 3).refused(UNKNOWN, "as", 4, 2).refused(UNKNOWN, "as", -1, -1);
+        for (int kind : new int[] {-1, 0, 1, 2, 3}) {
+            unknownGoer("as", 0, kind);
+        }
     }
 
     // ---- promise 30: trace

@@ -44,6 +44,13 @@ final class Run {
         return leavesAll(want, 0, new Call(name, with.clone()));
     }
 
+    /** A call that has any answer but one. */
+    Run notAnswered(long other, String name, int... with) {
+        Call call = new Call(name, with.clone());
+        Edges.holds(again().ask(call) != other, call + " is not answered by " + other);
+        return this;
+    }
+
     /** A call that comes to a fault of the machine, and changes nothing but fault(). */
     Run faulted(int fault, String name, int... with) {
         long want = ANSWER_LONG.contains(name) ? Edges.LOST : -10 - fault;
