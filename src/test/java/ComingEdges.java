@@ -17,7 +17,9 @@ public final class ComingEdges extends Edges {
         unknownEither(0, "widest", 0, 0);
     }
 
-    @Says("the greatest v (1 .. 9) so that one comes from the one to the other by HOLES of v or more alone")
+    @Says({"WIDEST.",
+        "WIDEST between two FIELDS: the greatest v (1 .. 9) so that one comes from the one to the other by HOLES of v or"
+            + " more alone"})
     static void promise11_v1To9() {
         for (int v = 1; v <= 9; v++) {
             of("h2" + v + ";g10").asked(v, "widest", 0, 1).asked(v, "widest", 1, 0);
@@ -54,7 +56,7 @@ public final class ComingEdges extends Edges {
 
     // ---- promise 12: way
 
-    @Says("how many FIELDS (x -1), FIELD x of it (0 .. 4)")
+    @Says("WAY: how many FIELDS (x -1), FIELD x of it (0 .. 4)")
     static void promise12_xFromLess1To4() {
         of(CHAIN).asked(5, "way", 0, 4, -1).asked(0, "way", 0, 4, 0).asked(1, "way", 0, 4, 1).asked(2, "way", 0, 4, 2)
             .asked(3, "way", 0, 4, 3).asked(4, "way", 0, 4, 4).asked(0, "way", 1, 0, 4).asked(4, "way", 1, 0, 0);
@@ -75,7 +77,7 @@ public final class ComingEdges extends Edges {
         }
     }
 
-    @Says("NONE: there are not so many, there is none")
+    @Says({"NONE: there are not so many, there is none", "of several rows the first; NONE: there is none"})
     static void promise12_noneThereIsNone() {
         for (int x = -1; x <= 4; x++) {
             of("h20;t10;g90").asked(NONE, "way", 0, 1, x).asked(NONE, "way", 1, 1, x);
@@ -97,7 +99,7 @@ public final class ComingEdges extends Edges {
             .asked(NONE, "way", 3, 1, -1);
     }
 
-    @Says("by the fewest HOLES, that he FITS")
+    @Says("WAY of a GOER to a FIELD: by the fewest HOLES, that he FITS")
     static void promise12_theFewestAheadOfTheFirstRow() {
         of("h3999;g10").asked(2, "way", 0, 2, -1).asked(2, "way", 0, 2, 1);
         of("h3989;g90").asked(3, "way", 0, 2, -1).asked(1, "way", 0, 2, 1);
@@ -138,7 +140,7 @@ public final class ComingEdges extends Edges {
 
     // ---- promise 13: market
 
-    @Says("the FIELD (what 0), who can come there, as a set (1)")
+    @Says("MARKET: the FIELD (what 0), who can come there, as a set (1)")
     static void promise13_what0And1() {
         of("h20;g11").asked(1, "market", 0).asked(1, "market", 1);
         for (int what : beyond(0, 1)) {
@@ -199,7 +201,9 @@ public final class ComingEdges extends Edges {
         unknownField(1, "widen", 0, 0);
     }
 
-    @Says("the fewest HOLES (there are such) to be made as great as he wants so that he comes there")
+    @Says({"WIDEN; NONE.",
+        "WIDEN for a GOER to a FIELD: the fewest HOLES (there are such) to be made as great as he wants so that he comes"
+            + " there"})
     static void promise14_from0To4Holes() {
         Run run = of(CHAIN);
         run.asked(0, "widen", 0, 0).asked(0, "widen", 0, 4).due(9, "hoop", 3, 4, 8).asked(1, "widen", 0, 4);
@@ -263,7 +267,8 @@ public final class ComingEdges extends Edges {
         of("h59000900090;g10").asked(0, "keep", 0, 3);
     }
 
-    @Says("the fewest HOLES to be shut so that he does not come there: HEDGES as a set")
+    @Says({"KEEP, as a set; NONE.",
+        "KEEP of a GOER from a FIELD: the fewest HOLES to be shut so that he does not come there: HEDGES as a set"})
     static void promise15_fromOneToFourHoles() {
         of(open(2, 1, ";g10")).asked(0b1, "keep", 0, 1);
         of(open(3, 1, ";g10")).asked(0b11, "keep", 0, 2);

@@ -65,7 +65,7 @@ public final class CountyEdges extends Edges {
         goesOnWith("h", "", -101);
     }
 
-    @Says("h, a digit 2 .. 5 (how many FIELDS there are, numbered from 0 on)")
+    @Says("A COUNTY by a TEXT: h, a digit 2 .. 5 (how many FIELDS there are, numbered from 0 on)")
     static void promise2_aDigit2To5OfFields() {
         goesOnWith("2345", "h", -102);
         for (int fields = 2; fields <= 5; fields++) {
@@ -150,7 +150,8 @@ public final class CountyEdges extends Edges {
         fresh().notTaken(23, "h25;g10;g10;g10;g10;g10;");
     }
 
-    @Says("FIRST FAULT: the place (from 0 on) of the first code with which no TEXT goes on")
+    @Says({"how many GOERS; -100 less the FIRST FAULT",
+        "FIRST FAULT: the place (from 0 on) of the first code with which no TEXT goes on"})
     static void promise2_theFirstOfSeveralFaults() {
         fresh().notTaken(0, "x9:,x").notTaken(1, "h6:;x0").notTaken(2, "h3:;x0").notTaken(3, "h35x");
         fresh().notTaken(4, "h25;x05").notTaken(5, "h25;g05").notTaken(6, "h25;g92x").notTaken(7, "h25;g91,g");
@@ -341,7 +342,7 @@ public final class CountyEdges extends Edges {
         unknownGoer("ofGoer", 0, -1);
     }
 
-    @Says("0 kind, 1 GIRTH, 2 how THICK he is, 3 the FIELD in which he is")
+    @Says("Of a GOER: 0 kind, 1 GIRTH, 2 how THICK he is, 3 the FIELD in which he is")
     static void promise3_what0To3() {
         of(FOUR).asked(2, "ofGoer", 2, 0).asked(9, "ofGoer", 2, 1).asked(4, "ofGoer", 2, 2).asked(1, "ofGoer", 2, 3);
         for (int what : beyond(0, 3)) {
@@ -389,7 +390,7 @@ public final class CountyEdges extends Edges {
         }
     }
 
-    @Says("0 how great the HOLE is (0: none)")
+    @Says("Of what is between two FIELDS: 0 how great the HOLE is (0: none)")
     static void promise4_howGreat0To9() {
         for (int width = 0; width <= 9; width++) {
             of("h2" + width + ";g10").asked(width, "hole", 0, 1, 0).asked(width, "hole", 1, 0, 0);

@@ -5,8 +5,12 @@ import java.lang.reflect.Method;
 import java.lang.reflect.Modifier;
 import java.nio.file.Files;
 import java.nio.file.Path;
+import java.util.ArrayList;
+import java.util.List;
 import java.util.Set;
 import java.util.TreeSet;
+import java.util.regex.Matcher;
+import java.util.regex.Pattern;
 
 /** The class as it is seen from outside, and the rules of LANGUAGE.md that can be seen in its text. */
 public final class FaceTest {
@@ -24,6 +28,10 @@ public final class FaceTest {
         "int UNKNOWN -1", "int OUTSIDE -2", "int STATE -3", "int FULL -4", "int NONE -9",
         "long LOST " + Long.MIN_VALUE
     };
+    private static final Path DOCUMENT = Path.of("../shared/DOC.md");
+    private static final Path TEXT = Path.of("src/main/java/HedgeHoles.java");
+    private static final Set<String> LIBRARY = Set.of("Arrays.fill", "Arrays.copyOf", "Arrays.copyOfRange",
+        "System.arraycopy", "Integer.bitCount", "Math.min", "Math.max", "Math.abs", "Long.MIN_VALUE");
     private static int wrong = 0;
 
     public static void main(String[] args) throws IOException, IllegalAccessException {
@@ -31,7 +39,13 @@ public final class FaceTest {
         methods();
         constants();
         nestedClasses();
-        text();
+        words(code());
+        library(code());
+        lengths(code());
+        if (Files.exists(DOCUMENT)) {
+            documentsFace(Files.readString(DOCUMENT));
+            headings(Files.readString(DOCUMENT));
+        }
         System.out.println(wrong == 0 ? "the face is as due" : wrong + " things are not as due");
         if (wrong != 0) {
             System.exit(1);
@@ -102,21 +116,88 @@ public final class FaceTest {
             int m = c.getModifiers();
             due(Modifier.isStatic(m) && !Modifier.isPublic(m) && !Modifier.isProtected(m), c + " is static, not public");
             due(c.getDeclaredFields().length <= 20, c + " has twenty fields at most");
+            for (Field f : c.getDeclaredFields()) {
+                int kept = f.getModifiers();
+                due(!Modifier.isStatic(kept) || Modifier.isFinal(kept), f + " is final, being static");
+            }
+            for (Method f : c.getDeclaredMethods()) {
+                due(f.getParameterCount() <= 7, f + " takes seven parameters at most");
+            }
         }
     }
 
-    private static void text() throws IOException {
-        String code = Files.readString(Path.of("src/main/java/HedgeHoles.java"))
-            .replaceAll("(?s)/\\*.*?\\*/", " ").replaceAll("//[^\n]*", " ");
+    // ---- the rules of LANGUAGE.md, in the text
+
+    private static String code() throws IOException {
+        return Files.readString(TEXT).replaceAll("(?s)/\\*.*?\\*/", " ").replaceAll("//[^\n]*", " ");
+    }
+
+    private static List<String> found(String pattern, String in) {
+        List<String> all = new ArrayList<>();
+        Matcher m = Pattern.compile(pattern).matcher(in);
+        while (m.find()) {
+            all.add(m.group());
+        }
+        return all;
+    }
+
+    private static void words(String code) {
         String[] none = {"throw", "throws", "try", "catch", "synchronized", "assert", "package", "native", "volatile",
-            "Object", "System.out", "System.currentTimeMillis", "System.nanoTime", "Random", "Thread"};
+            "Object", "System.out", "System.currentTimeMillis", "System.nanoTime", "Random", "Thread", "equals",
+            "hashCode", "toString", "instanceof", "double", "float"};
         for (String word : none) {
             due(!code.matches("(?s).*\\b" + word.replace(".", "\\.") + "\\b.*"), "the text is without " + word);
         }
         due(!code.contains("->") && !code.contains("::"), "the text is without lambdas and method references");
         due(!code.matches("(?s).*\\+ *\".*") && !code.matches("(?s).*\" *\\+.*"), "no text is joined by +");
+        due(found("static\\s*\\{", code).isEmpty(), "there is no static initialiser block");
+        due(found("\\bwhile\\b", code).isEmpty(), "every loop counts against a bound");
         for (int x = 0; x < code.length(); x++) {
             due(code.charAt(x) < 128, "sign " + x + " is one of 1 to 127");
         }
+    }
+
+    private static void library(String code) {
+        due(found("import [^;]*;", code).equals(List.of("import java.util.Arrays;")), "nothing but Arrays is imported");
+        for (String used : found("\\b(Arrays|System|Integer|Long|Math|String|List)\\.\\w+", code)) {
+            due(LIBRARY.contains(used), used + " is of the library that may be used");
+        }
+    }
+
+    /** Methods are told by their indents, which are four spaces in the class and eight in one inside it. */
+    private static void lengths(String code) {
+        for (String indent : new String[] {"    ", "        "}) {
+            for (String method : found("(?ms)^" + indent + "\\w[^\n;=]*\\) \\{\n.*?^" + indent + "\\}", code)) {
+                due(method.lines().count() <= 60, "sixty lines at most: " + method.lines().findFirst().get());
+            }
+        }
+    }
+
+    // ---- the document's own words
+
+    private static void documentsFace(String document) throws IOException {
+        String face = document.replaceAll("(?s).*## The public face\\s*```java(.*?)```.*", "$1");
+        List<String> told = found("public [^;{=]*\\)(?=;)", face);
+        List<String> written = found("public [^;{=]*\\)(?= \\{)", code());
+        due(told.size() == 1 + METHODS.length, "the document tells a constructor and each method: " + told);
+        due(told.equals(written), "the face is the document's, with its names and in its order: " + written);
+        for (String constant : found("public static final [^;]*;", face)) {
+            due(code().contains(constant), "there is " + constant);
+        }
+    }
+
+    private static void headings(String document) throws IOException {
+        String text = Files.readString(TEXT);
+        Matcher m = Pattern.compile("Ahead of the calls (.*?) the interface says: (---- .*?)\\.\n").matcher(document);
+        int calls = 0;
+        while (m.find()) {
+            int from = text.indexOf("// " + m.group(2) + "\n");
+            due(from >= 0, "the interface says " + m.group(2));
+            String part = from < 0 ? "" : text.substring(from + 3, text.indexOf("// ----", from + 3));
+            List<String> under = found("(?<=public (int|long) )\\w+(?=\\()", part);
+            due(under.equals(found("\\w+", m.group(1))), "under " + m.group(2) + " stand " + m.group(1) + ": " + under);
+            calls += under.size();
+        }
+        due(calls == METHODS.length, "each call stands under a heading");
     }
 }

@@ -20,7 +20,7 @@ public final class FittedEdges extends Edges {
 
     // ---- promise 16: reading
 
-    @Says("READINGS, 8 at most, numbered by how many there are")
+    @Says({"A READING: its number", "READINGS, 8 at most, numbered by how many there are"})
     static void promise16_eightAtMost() {
         full().refused(FULL, "reading", 0, 0, 1, 0).refused(FULL, "reading", 3, 3, 2, 1);
     }
@@ -65,7 +65,7 @@ public final class FittedEdges extends Edges {
 
     // ---- promise 17: back
 
-    @Says("The last n READINGS (0 .. as many as there are) are taken back: how many are left")
+    @Says("The last n READINGS (0 .. as many as there are) are taken back: how many are left. OUTSIDE.")
     static void promise17_nFrom0ToAsManyAsThereAre() {
         for (int n = 0; n <= 8; n++) {
             full().due(8 - n, "back", n).asked(8 - n, "many", 4).refused(OUTSIDE, "back", 9 - n)
@@ -97,7 +97,7 @@ public final class FittedEdges extends Edges {
         unknownGoer("girths", 0);
     }
 
-    @Says("GIRTHS of a GOER: 1 .. 9")
+    @Says({"GIRTHS, as a set.", "GIRTHS of a GOER: 1 .. 9"})
     static void promise18_allWithoutReadings() {
         of("h20;g10;t50;c90").asked(1022, "girths", 0).asked(1022, "girths", 1).asked(1022, "girths", 2);
     }
@@ -116,7 +116,7 @@ public final class FittedEdges extends Edges {
         read(3, "c5", 0).asked(768, "girths", 0);
     }
 
-    @Says("in place of what it is alone, by which all READINGS are so")
+    @Says("All that follows: in place of what it is alone, by which all READINGS are so")
     static void promise18_noGirthAtAll() {
         read(9, "g5", 0).asked(0, "girths", 0);
         read(8, "t5", 0).asked(0, "girths", 0);
@@ -146,7 +146,7 @@ public final class FittedEdges extends Edges {
         unknownGoer("kinds", 0);
     }
 
-    @Says("KINDS of a GOER: 0 .. 2")
+    @Says({"KINDS, as a set.", "KINDS of a GOER: 0 .. 2"})
     static void promise19_fromNoneToAllThree() {
         of("h20;g10;t50;c90").asked(7, "kinds", 0).asked(7, "kinds", 1).asked(7, "kinds", 2);
         for (String goer : new String[] {"g9", "t9", "c9"}) {
@@ -182,7 +182,7 @@ public final class FittedEdges extends Edges {
         unknownEither(0, "holes", 0, 0);
     }
 
-    @Says("HOLES between two FIELDS: 0 .. 9")
+    @Says({"HOLES, as a set.", "HOLES between two FIELDS: 0 .. 9; as sets"})
     static void promise20_fromNoneToAllTen() {
         read(5, "g9", 1).asked(512, "holes", 0, 1).asked(512, "holes", 1, 0);
         read(5, "g9", 0).asked(511, "holes", 0, 1);
@@ -235,7 +235,7 @@ public final class FittedEdges extends Edges {
         share(of(open(5, 0, ";c94")), 0, 4, 1, 1);
     }
 
-    @Says("if his GIRTH is any of 1 .. 9, all alike")
+    @Says("ODDS of a GOER and a FIELD: if his GIRTH is any of 1 .. 9, all alike")
     static void promise21_anyGirthOf1To9() {
         int[][] ofChild = {{0, 1}, {1, 3}, {5, 9}, {7, 9}, {1, 1}, {1, 1}};
         for (int width = 0; width <= 5; width++) {
@@ -247,7 +247,7 @@ public final class FittedEdges extends Edges {
         share(of("h21;g90"), 0, 1, 1, 9);
     }
 
-    @Says("which 0 the upper, 1 the lower number")
+    @Says("ODDS (which 0 the upper, 1 the lower number)")
     static void promise21_which0And1() {
         of("h23;g10").asked(1, "odds", 0, 1, 0).asked(3, "odds", 0, 1, 1);
         for (int which : beyond(0, 1)) {

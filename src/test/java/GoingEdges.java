@@ -29,7 +29,7 @@ public final class GoingEdges extends Edges {
         of("h21;t10;c10").due(1, "go", 0, 1).due(1, "go", 1, 1);
     }
 
-    @Says("how much greater the HOLE is than he is THICK")
+    @Says("A GOER GOES to a FIELD: how much greater the HOLE is than he is THICK")
     static void promise7_howMuchGreater0To9() {
         of("h29;g90;t10;c10;g10").due(0, "go", 0, 1).due(9, "go", 1, 1).due(9, "go", 2, 1).due(8, "go", 3, 1);
     }
@@ -103,7 +103,7 @@ public final class GoingEdges extends Edges {
             .due(9, "stop", 0, 1).due(8, "go", 0, 1).due(1, "years", 1).widths(9);
     }
 
-    @Says("each HOLE that is WORN is 1 greater (9 at most)")
+    @Says("A YEAR: each HOLE that is WORN is 1 greater (9 at most)")
     static void promise8_aWornHoleIs1Greater() {
         for (int width = 1; width <= 9; width++) {
             of("h2" + width + ";g10").due(width - 1, "go", 0, 1).due(1, "years", 1).widths(Math.min(width + 1, 9));
@@ -245,7 +245,7 @@ public final class GoingEdges extends Edges {
         }
     }
 
-    @Says("that are cells of a SHEET from i on (2 n)")
+    @Says("A SEASON of n pairs, that are cells of a SHEET from i on (2 n)")
     static void promise10_indexOfTwiceNCells() {
         Run run = busy().row(3, 2, 0, 0, 10, 0, 10);
         run.asked(0, "season", 3, 2, 0, 1, 1).asked(NONE, "season", 3, 2, 1, 2, 1).asked(NONE, "season", 3, 2, 3, 1, 1)

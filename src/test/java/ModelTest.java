@@ -15,11 +15,7 @@ import java.util.regex.Pattern;
 public final class ModelTest {
     private static final int RUNS = 1500, CALLS = 512;
     private static final long LOST = Long.MIN_VALUE;
-    private static final String[] NAMES = {"county", "ofGoer", "hole", "hoop", "fatten", "go", "years", "stop", "season",
-        "widest", "way", "market", "widen", "keep", "reading", "back", "girths", "kinds", "holes", "odds", "sheet",
-        "lose", "put", "cell", "copy", "tell", "hail", "as", "trace", "fault", "many"};
-    private static final int[] TAKES = {4, 2, 3, 3, 2, 2, 1, 2, 5, 2, 3, 1, 2, 2, 4, 1, 1, 1, 2, 3, 3, 1, 3, 3, 5, 1, 1, 2,
-        0, 0, 1};
+    private static final List<String> NAMES = Calls.names();
     private static final int[] EDGES = {Integer.MIN_VALUE, Integer.MIN_VALUE + 1, -129, -10, -2, -1, 20, 21, 59, 60, 61,
         255, 256, 65536 + 3, Integer.MAX_VALUE - 1, Integer.MAX_VALUE};
 
@@ -126,12 +122,12 @@ public final class ModelTest {
     }
 
     private void anyCall() {
-        int which = random.nextInt(NAMES.length);
-        int[] with = new int[TAKES[which]];
+        String name = NAMES.get(random.nextInt(NAMES.size()));
+        int[] with = new int[Calls.taken(name)];
         for (int x = 0; x < with.length; x++) {
             with[x] = any();
         }
-        call(NAMES[which], with);
+        call(name, with);
     }
 
     private int any() {
@@ -152,44 +148,6 @@ public final class ModelTest {
             wrong++;
             System.out.println(String.join("\n", told));
             System.out.println("answered " + got + ", due is " + want);
-        }
-    }
-
-    private static final class Calls {
-        static long of(HedgeHoles x, String name, int[] a) {
-            switch (name) {
-                case "county": return x.county(a[0], a[1], a[2], a[3]);
-                case "ofGoer": return x.ofGoer(a[0], a[1]);
-                case "hole": return x.hole(a[0], a[1], a[2]);
-                case "hoop": return x.hoop(a[0], a[1], a[2]);
-                case "fatten": return x.fatten(a[0], a[1]);
-                case "go": return x.go(a[0], a[1]);
-                case "years": return x.years(a[0]);
-                case "stop": return x.stop(a[0], a[1]);
-                case "season": return x.season(a[0], a[1], a[2], a[3], a[4]);
-                case "widest": return x.widest(a[0], a[1]);
-                case "way": return x.way(a[0], a[1], a[2]);
-                case "market": return x.market(a[0]);
-                case "widen": return x.widen(a[0], a[1]);
-                case "keep": return x.keep(a[0], a[1]);
-                case "reading": return x.reading(a[0], a[1], a[2], a[3]);
-                case "back": return x.back(a[0]);
-                case "girths": return x.girths(a[0]);
-                case "kinds": return x.kinds(a[0]);
-                case "holes": return x.holes(a[0], a[1]);
-                case "odds": return x.odds(a[0], a[1], a[2]);
-                case "sheet": return x.sheet(a[0], a[1], a[2]);
-                case "lose": return x.lose(a[0]);
-                case "put": return x.put(a[0], a[1], a[2]);
-                case "cell": return x.cell(a[0], a[1], a[2]);
-                case "copy": return x.copy(a[0], a[1], a[2], a[3], a[4]);
-                case "tell": return x.tell(a[0]);
-                case "hail": return x.hail(a[0]);
-                case "as": return x.as(a[0], a[1]);
-                case "trace": return x.trace();
-                case "fault": return x.fault();
-                default: return x.many(a[0]);
-            }
         }
     }
 

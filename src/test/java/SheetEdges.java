@@ -32,7 +32,7 @@ public final class SheetEdges extends Edges {
         }
     }
 
-    @Says("a row of 0 .. 60 numbers (0 at first)")
+    @Says("SHEETS 0 .. 3 have nothing (at first), or a row of 0 .. 60 numbers (0 at first)")
     static void promise22_rowsOf0To60() {
         for (int lane = 0; lane < 3; lane++) {
             has(fresh().due(1, "sheet", 2, lane, 0), 2, lane);
@@ -286,7 +286,7 @@ public final class SheetEdges extends Edges {
     // ---- promise 27: tell
 
     /** What goers of each kind, of the least and the greatest girth, are told as. */
-    @Says("PLAIN (1): GIRTH. THIEF (2): what PLAIN's gives, and 100")
+    @Says({"TELLING of a GOER.", "PLAIN (1): GIRTH. THIEF (2): what PLAIN's gives, and 100"})
     static void promise27_theLeastAndTheGreatestGirth() {
         of("h20;g10;t10;c10").due(1, "tell", 0).due(101, "tell", 1).due(102, "tell", 2);
         of("h20;g90;t90;c90").due(9, "tell", 0).due(109, "tell", 1).due(118, "tell", 2);
@@ -307,7 +307,7 @@ public final class SheetEdges extends Edges {
 
     // ---- promise 28: hail
 
-    @Says("HAILED by a lent body (4): the FIELD in which he is; CHILDREN have their own (5): 90")
+    @Says({"How he is HAILED.", "HAILED by a lent body (4): the FIELD in which he is; CHILDREN have their own (5): 90"})
     static void promise28_theFirstAndTheLastField() {
         of(open(5, 1, ";g10;t10;g14;t14;c14")).due(0, "hail", 0).due(0, "hail", 1).due(4, "hail", 2).due(4, "hail", 3)
             .due(90, "hail", 4);
@@ -320,7 +320,7 @@ public final class SheetEdges extends Edges {
 
     // ---- promise 29: as
 
-    @Says("CAST: he is none (each is a PLAIN one, too; a CHILD is a THIEF)")
+    @Says({"A GOER, taken as one of a kind: 1.", "CAST: he is none (each is a PLAIN one, too; a CHILD is a THIEF)"})
     static void promise29_castOfEachKind() {
         of("h20;g10;t10;c10").asked(1, "as", 0, 0).faulted(CAST, "as", 0, 1).faulted(CAST, "as", 0, 2)
             .asked(1, "as", 1, 0).asked(1, "as", 1, 1).faulted(CAST, "as", 1, 2)
@@ -358,7 +358,9 @@ public final class SheetEdges extends Edges {
         }
     }
 
-    @Says("becomes 31 times it and the number) as they begin")
+    @Says({"TRACE.",
+        "TELLING of GOERS by bodies that leave their number in TRACE (",
+        "becomes 31 times it and the number) as they begin"})
     static void promise30_inTheOrderInWhichTheyBegin() {
         of("h20;g10;t10;c10").due(1, "tell", 0).asked(1, "trace");
         of("h20;g10;t10;c10").due(101, "tell", 1).asked(2 * 31 + 1, "trace");
@@ -374,7 +376,9 @@ public final class SheetEdges extends Edges {
             .due(0, "fault");
     }
 
-    @Says("The FAULT of the latest call that names one")
+    @Says({"The FAULT of the latest call that names one",
+        "FAULTS are the machine's: 1 NULL (there is nothing), 2 CAST (it is of another lane, kind), 3 INDEX (",
+        "4 SIZE (a length below 0)"})
     static void promise31_eachOfTheFour() {
         busy().due(-11, "put", 3, 0, 0).due(1, "fault").due(-12, "as", 0, 1).due(2, "fault").due(-13, "put", 1, 3, 0)
             .due(3, "fault").due(-14, "sheet", 1, 0, -1).due(4, "fault").due(4, "fault").due(-11, "put", 3, 0, 0)
@@ -410,6 +414,37 @@ public final class SheetEdges extends Edges {
             .due(6, "reading", 0, 0, 1, 1).due(7, "reading", 0, 0, 1, 1).refused(FULL, "reading", 0, 0, 1, 1)
             .refused(UNKNOWN, "as", 4, 0).refused(OUTSIDE, "sheet", 0, 0, 61);
         fresh().row(0, 0).refused(STATE, "season", 0, 0, 0, 0, 0);
+    }
+
+    @Says("REFUSALS, in the order in which a call's line tells them: UNKNOWN (there is no such GOER, FIELD, SHEET, place of"
+        + " a row), OUTSIDE (another number is not as told), STATE (as told), FULL; they change nothing")
+    static void promise31_theOrderOfRefusals() {
+        // Of each call that has several all at once, then without the first of them, and so on.
+        Run run = busy();
+        for (int n = 2; n < 8; n++) {
+            run.due(n, "reading", 0, 0, 1, 1);
+        }
+        run.refused(UNKNOWN, "ofGoer", 4, 4).refused(OUTSIDE, "ofGoer", 0, 4)
+            .refused(UNKNOWN, "hole", 0, 0, 3).refused(OUTSIDE, "hole", 0, 1, 3)
+            .refused(UNKNOWN, "hoop", 0, 4, 10).refused(OUTSIDE, "hoop", 0, 1, 10)
+            .refused(UNKNOWN, "fatten", 4, 0).refused(OUTSIDE, "fatten", 0, 0)
+            .refused(UNKNOWN, "go", 4, 0).refused(UNKNOWN, "go", 0, 4).refused(STATE, "go", 0, 0)
+            .refused(UNKNOWN, "stop", 2, 2).refused(STATE, "stop", 0, 2)
+            .refused(UNKNOWN, "way", 0, 4, 5).refused(OUTSIDE, "way", 0, 0, 5)
+            .refused(UNKNOWN, "reading", 4, 0, 1, 2).refused(UNKNOWN, "reading", 0, 1, 1, 2)
+            .refused(OUTSIDE, "reading", 0, 0, 1, 2).refused(FULL, "reading", 0, 0, 1, 0)
+            .refused(LOST, "odds", 4, 4, 2).refused(LOST, "odds", 0, 0, 2)
+            .refused(UNKNOWN, "as", 4, 3).refused(OUTSIDE, "as", 0, 3).faulted(CAST, "as", 0, 2)
+            .refused(UNKNOWN, "sheet", 4, 3, -1).refused(OUTSIDE, "sheet", 0, 3, -1).faulted(SIZE, "sheet", 0, 2, -1)
+            .refused(UNKNOWN, "county", 4, 3, -1, -1).refused(OUTSIDE, "county", 3, 3, -1, -1)
+            .faulted(NULL, "county", 3, 2, -1, -1)
+            .refused(UNKNOWN, "season", 4, 3, -1, 21, 5).refused(OUTSIDE, "season", 3, 3, -1, 20, 0)
+            .refused(OUTSIDE, "season", 3, 2, -1, 21, 0).refused(OUTSIDE, "season", 3, 2, -1, 20, 5)
+            .faulted(NULL, "season", 3, 2, -1, 20, 0);
+        fresh().refused(OUTSIDE, "years", 0).refused(STATE, "years", 1).refused(OUTSIDE, "market", 2)
+            .refused(STATE, "market", 0).row(1, 2, 9, 9).faulted(INDEX, "season", 1, 2, 0, 2, 0)
+            .refused(STATE, "season", 1, 2, 0, 1, 0);
+        of("h25;g30").season(OUTSIDE, 0, 9, 9).season(UNKNOWN, 0, 1, 1).season(-100, 0, 0, 0);
     }
 
     @Says("0: it came to none, or was refused")
@@ -462,7 +497,7 @@ public final class SheetEdges extends Edges {
         }
     }
 
-    @Says("(0 all without a COUNTY)")
+    @Says("(0 all without a COUNTY). OUTSIDE.")
     static void promise32_0AllWithoutACounty() {
         Run run = fresh().notTaken(16, "h3999;g90;t91;c93").refused(STATE, "years", 1).refused(UNKNOWN, "go", 0, 1);
         for (int what = 0; what < 5; what++) {

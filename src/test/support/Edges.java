@@ -32,17 +32,15 @@ abstract class Edges {
         boolean isThere = Files.exists(DOCUMENT);
         String[] sections = isThere ? Files.readString(DOCUMENT).split("\n## ") : new String[0];
         Set<Integer> met = new TreeSet<>();
-        List<Method> all = new ArrayList<>(Arrays.asList(tests.getDeclaredMethods()));
-        all.removeIf(m -> !m.getName().startsWith("promise"));
-        all.sort(Comparator.comparingInt(Edges::promiseOf).thenComparing(Method::getName));
+        List<Method> all = testsOf(tests);
         for (Method test : all) {
             current = test.getName();
             met.add(promiseOf(test));
             Says says = test.getAnnotation(Says.class);
             holds(says != null, "it quotes the document");
             // The quotes are a check of the tests, not of the class: without a document they are passed over.
-            if (says != null && isThere) {
-                holds(isSaid(sections, promiseOf(test), says.value()), "the document says it for this promise");
+            for (String words : says != null && isThere ? says.value() : new String[0]) {
+                holds(isSaid(sections, promiseOf(test), words), "the document says it for this promise: " + words);
             }
             perform(test);
         }
@@ -56,6 +54,13 @@ abstract class Edges {
         }
     }
 
+    static List<Method> testsOf(Class<?> tests) {
+        List<Method> all = new ArrayList<>(Arrays.asList(tests.getDeclaredMethods()));
+        all.removeIf(m -> !m.getName().startsWith("promise"));
+        all.sort(Comparator.comparingInt(Edges::promiseOf).thenComparing(Method::getName));
+        return all;
+    }
+
     private static void perform(Method test) throws IllegalAccessException {
         test.setAccessible(true);
         try {
@@ -66,7 +71,7 @@ abstract class Edges {
         }
     }
 
-    private static int promiseOf(Method test) {
+    static int promiseOf(Method test) {
         return Integer.parseInt(test.getName().replaceAll("^promise|_.*", ""));
     }
 

@@ -1,5 +1,3 @@
-import java.lang.reflect.InvocationTargetException;
-import java.lang.reflect.Method;
 import java.util.ArrayList;
 import java.util.Arrays;
 import java.util.List;
@@ -140,16 +138,10 @@ final class Run {
         if (calls > MOST_CALLS) {
             throw new IllegalStateException("an object is asked too often: the test asks what is not promised");
         }
-        Object[] with = Arrays.stream(call.with).boxed().toArray();
-        Class<?>[] types = new Class<?>[with.length];
-        Arrays.fill(types, int.class);
         try {
-            Method method = HedgeHoles.class.getMethod(call.name, types);
-            return ((Number) method.invoke(object, with)).longValue();
-        } catch (InvocationTargetException e) {
-            throw new IllegalStateException(call + " threw, behind " + past, e.getCause());
-        } catch (ReflectiveOperationException e) {
-            throw new IllegalStateException("there is no " + call, e);
+            return Calls.of(object, call.name, call.with);
+        } catch (RuntimeException e) {
+            throw new IllegalStateException(call + " threw, behind " + past, e);
         }
     }
 
